@@ -1086,11 +1086,11 @@ public final class TasterTable {
     /** The events, in the order in which they were told. */
     private static final class Log {
         int events;
-        private final int[] who = new int[MAX_EVENTS];
+        final int[] who = new int[MAX_EVENTS];
         /** NONE: he fell. */
-        private final int[] dishEaten = new int[MAX_EVENTS];
-        private final int[] tickOf = new int[MAX_EVENTS];
-        private final int[] withWine = new int[MAX_EVENTS];
+        final int[] dishEaten = new int[MAX_EVENTS];
+        final int[] tickOf = new int[MAX_EVENTS];
+        final int[] withWine = new int[MAX_EVENTS];
         final int[] fellAt = new int[MAX_TASTERS];
 
         Log() {

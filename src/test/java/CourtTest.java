@@ -201,10 +201,6 @@ public final class CourtTest {
                 CHECK.same("'" + table + "' day(19, " + w + ")", due[w], () -> x.day(19, w));
             }
         }
-        // Without more draws: one that is drawn a day makes a day's draw the next one's.
-        TasterTable odd = Check.made("dish 0 30;poison 5 weight 0;taster plain;");
-        odd.begin(5, 0, 1000);
-        CHECK.same("a day", 1, () -> odd.on(1));
     }
 
     private static void image() {

@@ -8,6 +8,7 @@ public final class PlanTest {
         latestTick();
         fewestThenColdThenFirst();
         capsShareTheWork();
+        firstRowOfAnotherCompany();
         keeps();
         bars();
         worth();
@@ -99,6 +100,9 @@ public final class PlanTest {
         CHECK.same("slow where there is time", 1, () -> z.planned(0, 0));
         CHECK.same("plain where there is none", 2, () -> z.planned(1, 0));
         CHECK.same("cold of both", 30, () -> z.plan(0, 1));
+        TasterTable last = Check.made("dish 0 10;dish 3 13;poison 10;taster plain cap 1;taster plain cap 1;");
+        CHECK.same("shared, at the last tick still", 2, () -> last.plan(0, 0));
+        CHECK.same("tasted when ready", 3, () -> last.planned(1, 1));
         TasterTable w = Check.made("dish 0 60;".repeat(6) + "poison 7;" + "taster plain cap 3;".repeat(5));
         CHECK.same("30 of 15", -1, () -> w.plan(2, 0));
         CHECK.same("caps bar it", 99, () -> w.bars(2));
@@ -108,6 +112,16 @@ public final class PlanTest {
             int d = dish;
             CHECK.same("set of dish " + dish, sets[d], () -> w.planned(d, 0));
         }
+    }
+
+    /** Of the four who share, 0 to 3 come first as a set, but another four have the first row. */
+    private static void firstRowOfAnotherCompany() {
+        TasterTable x = Check.made("dish 0 60;dish 0 60;" + "poison 5 hardens 1;".repeat(4)
+                + "taster plain cap 1;".repeat(5) + "had 2 0 1;had 3 0 1;had 0 1 1;had 1 2 1;had 4 3 1;");
+        CHECK.same("four", 4, () -> x.plan(0, 0));
+        CHECK.same("of like cold", 10, () -> x.plan(0, 1));
+        CHECK.same("the first row's first set", 3, () -> x.planned(0, 0));
+        CHECK.same("the first row's second set", 20, () -> x.planned(1, 0));
     }
 
     private static void keeps() {

@@ -54,6 +54,15 @@ public final class TextTest {
         CHECK.same("tape is empty", 0, () -> x.count(6));
         CHECK.same("empty text", 0, () -> x.table(0));
         CHECK.same("clean is 1 again", 1, () -> x.count(3));
+        Check.feed(x, "clean 12;");
+        CHECK.same("a number is cut", 1, () -> x.table(7));
+        CHECK.same("where the text ends", 7, x::fault);
+        Check.feed(x, "clean 1;");
+        CHECK.same("a word is cut", 1, () -> x.table(4));
+        CHECK.same("so it is none that can stand there", 0, x::fault);
+        Check.feed(x, "poison 5 winex;");
+        CHECK.same("another word", 1, () -> x.table(13));
+        CHECK.same("which can", 13, x::fault);
         String full = "dish 1 2;" + " ".repeat(682) + "clean 55;";
         CHECK.same("700 bytes", 0, () -> Check.table(x, full));
         CHECK.same("its last line", 55, () -> x.count(3));
@@ -123,6 +132,8 @@ public final class TextTest {
         fault("7;", 1, 0);
         fault("12345;", 1, 0);
         fault("dishes 1 2;", 1, 0);
+        fault("dishz 1 2;", 1, 0);
+        fault("adish 1 2;", 1, 0);
         fault("Dish 1 2;", 1, 0);
         fault("dish x 2;", 1, 5);
         fault("dish 1,2;", 1, 6);

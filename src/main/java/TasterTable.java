@@ -813,7 +813,9 @@ public final class TasterTable {
         /** With so many dishes to go or fewer, what was found is noted. */
         private static final int NOTED_DISHES = 4;
         /** By dishes to go: where their notes start, one of them for each row of caps that are left. */
-        private static final int[] NOTES_FROM = {0, 0, 32, 275, 1299, 4424};
+        private static final int[] NOTES_FROM = {0, 0, 32, 275, 1299};
+        /** 2, 3, 4 and 5 to the fifth together. */
+        private static final int MAX_NOTES = 4424;
 
         private final Plan[] plans = new Plan[(MAX_LIES + 1) * (MAX_TASTERS + 1)];
         private Board board;
@@ -824,7 +826,7 @@ public final class TasterTable {
         private int leanCount;
         private final int[] capsLeft = new int[MAX_TASTERS];
         private final int[] row = new int[MAX_DISHES];
-        private final int[] notes = new int[NOTES_FROM[NOTED_DISHES + 1]];
+        private final int[] notes = new int[MAX_NOTES];
         /** Notes of an earlier search bear another number. */
         private int search;
 

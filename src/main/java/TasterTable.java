@@ -1039,7 +1039,7 @@ public final class TasterTable {
                 key = key * (toGo + 1) + Math.min(capsLeft[taster], toGo);
             }
             int place = NOTES_FROM[toGo] + key;
-            return place < notes.length ? place : NONE;
+            return place >= 0 && place < notes.length ? place : NONE;
         }
 
         private int openTasters() {

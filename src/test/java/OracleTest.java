@@ -18,6 +18,9 @@ public final class OracleTest {
         for (int round = 0; round < 600 * rounds; round++) {
             tables(new Random(77_000_000L + round));
         }
+        for (int round = 0; round < 60 * rounds; round++) {
+            greatTables(new Random(55_000_000L + round));
+        }
         CHECK.finish();
     }
 
@@ -142,6 +145,30 @@ public final class OracleTest {
             }
         }
         court(x, oracle, random, text);
+    }
+
+    /** Many dishes, and caps that bind: only their plans, for the oracle takes long. */
+    private static void greatTables(Random random) {
+        StringBuilder text = new StringBuilder();
+        int poisons = 1 + random.nextInt(4);
+        for (int dish = 5 + random.nextInt(2); dish > 0; dish--) {
+            int ready = random.nextInt(10);
+            text.append("dish ").append(ready).append(' ').append(ready + 5 + random.nextInt(60)).append(';');
+        }
+        for (int poison = 0; poison < poisons; poison++) {
+            text.append("poison ").append(1 + random.nextInt(20)).append(random.nextInt(5) == 0 ? " wine" : "")
+                    .append(" hardens ").append(random.nextInt(2)).append(';');
+        }
+        for (int taster = 0; taster < 5; taster++) {
+            text.append("taster ").append(KINDS[random.nextInt(4)]).append(" cap ").append(1 + random.nextInt(5)).append(';');
+        }
+        for (int taster = 0; taster < 5; taster++) {
+            for (int poison = 0; poison < poisons; poison++) {
+                text.append(random.nextInt(5) == 0 ? "had " + taster + " " + poison + " 1;" : "");
+            }
+        }
+        String told = text.toString();
+        plans(Check.made(told), new Oracle(told), told);
     }
 
     private static void plans(TasterTable x, Oracle oracle, String text) {

@@ -1,3 +1,8 @@
+import java.lang.reflect.InvocationTargetException;
+import java.lang.reflect.Method;
+import java.lang.reflect.Modifier;
+import java.util.Arrays;
+import java.util.Comparator;
 import java.util.NoSuchElementException;
 
 /** What all tests use: answers are compared, wrong ones printed, and the exit code tells whether there was one. */
@@ -36,6 +41,48 @@ final class Check {
             if (wrong < 40) {
                 System.out.println(name + ": " + what + " answered " + told(got) + ", due is " + told(due));
             }
+        }
+    }
+
+    void yes(String what, Call call) {
+        same(what, 1, call);
+    }
+
+    void noSuch(String what, Call call) {
+        same(what, NO_SUCH, call);
+    }
+
+    void illegal(String what, Call call) {
+        same(what, ILLEGAL, call);
+    }
+
+    /** Runs every test of a class: its private static methods without parameters, so that none is forgotten. */
+    void runEach(Class<?> tests) {
+        Method[] methods = tests.getDeclaredMethods();
+        Arrays.sort(methods, Comparator.comparing(Method::getName));
+        int ran = 0;
+        for (Method m : methods) {
+            if (Modifier.isPrivate(m.getModifiers()) && !m.isSynthetic() && m.getParameterCount() == 0
+                    && m.getReturnType() == void.class) {
+                runOne(m);
+                ran++;
+            }
+        }
+        System.out.println(name + ": " + ran + " tests");
+        finish();
+    }
+
+    private void runOne(Method test) {
+        int before = wrong;
+        try {
+            test.setAccessible(true);
+            test.invoke(null);
+        } catch (IllegalAccessException | InvocationTargetException e) {
+            wrong++;
+            System.out.println(name + ": " + e.getCause());
+        }
+        if (wrong > before) {
+            System.out.println(name + ": in " + test.getName());
         }
     }
 

@@ -22,7 +22,7 @@ public final class CourtTest {
             for (int his = 0; his <= n; his++) {
                 for (int ill = 0; ill <= n; ill++) {
                     for (int both = 0; both <= ill; both++) {
-                        countedTrial(x, n, his, ill, both);
+                        countedTrial(new TasterTable(), n, his, ill, both);
                     }
                 }
             }

@@ -48,7 +48,7 @@ public final class FaceTest {
     public static void main(String[] args) throws IOException {
         face();
         source();
-        for (int seed = 0; seed < 150; seed++) {
+        for (int seed = 0; seed < 250; seed++) {
             anyCalls(new Random(seed));
         }
         CHECK.finish();
@@ -140,7 +140,7 @@ public final class FaceTest {
 
     private static void anyCalls(Random random) {
         TasterTable x = new TasterTable();
-        for (int call = 0; call < 512; call++) {
+        for (int call = 0; call < 300; call++) {
             if (call % 100 == 0 && x.count(6) < 300) {
                 x.table(0);
                 Check.table(x, TEXTS[random.nextInt(TEXTS.length)]);

@@ -191,6 +191,15 @@ public final class CourtEdgeTest {
         day(x, 99, -1, -1, 0, 0);
     }
 
+    /** begin() keeps no PLAN for planned(): that is what plan() does. */
+    private static void beginKeepsNoPlan() {
+        TasterTable x = court("dish 0 20;poison 5;taster plain;taster slow;", 1, 1, 5, 1);
+        CHECK.noSuch("none is kept", () -> x.planned(0, 0));
+        x.plan(0, 0);
+        begins(x, 1, 1, 5);
+        CHECK.same("the earlier one is", 1, () -> x.planned(0, 0));
+    }
+
     /** DAYS of an empty table may begin: THE PLAN has nobody. */
     private static void beginOfNothing() {
         for (int lies = 0; lies <= 2; lies++) {
@@ -443,6 +452,13 @@ public final class CourtEdgeTest {
         day(court("dish 0 20;poison 20;taster plain;", 1, 0, 1000, 1), 0, 0, 0, 1, 0);
     }
 
+    /** They taste "with WINE (but dogs)" on every DAY. */
+    private static void fallsWithWine() {
+        day(court("dish 0 20;poison 5 wine;taster plain;taster drunk;", 1, 1, 1000, 1), 0, 0, 0, 3, 0);
+        day(court("dish 0 8;poison 5 wine weight 0;poison 15;taster plain;taster dog;", 1, 0, 1000, 1), 0, 0, 1, 2, 0);
+        day(court("dish 0 8;poison 5 wine;poison 15 weight 0;taster plain;taster dog;", 1, 0, 1000, 1), 0, 0, 0, 1, 0);
+    }
+
     /** One of the set in whom the POISON shows behind SERVED doesn't FALL, but has HAD it. */
     private static void showsTooLate() {
         // the dog for poison 1, the plain one (whom that shows 18 ticks late) for poison 0, both 9 ticks ahead
@@ -633,6 +649,35 @@ public final class CourtEdgeTest {
         }
         CHECK.same("undone as ever", 1, x::undo);
         CHECK.same("FELL no more", -1, () -> x.taster(0, 2));
+    }
+
+    /** All of an EVENT is in the image: who, the DISH, the TICK, with WINE or not, ATE or FELL. */
+    private static void imageHasAllOfAnEvent() {
+        TasterTable x = Check.made("dish 0 20;dish 0 20;poison 5 wine;poison 9;taster plain;taster plain;");
+        x.ate(0, 1, 3, true);
+        x.ate(1, 0, 4, false);
+        x.ate(0, 0, 1, false);
+        x.fell(0, 8);
+        x.image();
+        for (int i = 0; i < 4; i++) {
+            x.undo();
+        }
+        x.fell(1, 6);
+        x.ate(0, 1, 2, true);
+        x.ate(0, 0, 3, true);
+        x.ate(1, 1, 0, true);
+        CHECK.same("another one FITS", 0, () -> x.cases(-1));
+        x.restore();
+        CHECK.same("one FITS", 1, () -> x.cases(-1));
+        CHECK.same("DISH 1 by POISON 0", 3, () -> x.cases(0));
+        CHECK.same("3 left", 3, x::undo);
+        CHECK.same("he didn't FALL", -1, () -> x.taster(0, 2));
+        CHECK.same("2 left", 2, x::undo);
+        CHECK.same("NOW", 4, () -> x.count(5));
+        CHECK.same("none has shown", 5, () -> x.waiting(7));
+        CHECK.same("one has", 4, () -> x.waiting(8));
+        CHECK.same("two have", 3, () -> x.waiting(12));
+        CHECK.same("of each one", 2, () -> x.waiting(13));
     }
 
     /** The greatest image: 60 EVENTS and 300 DAYS. */

@@ -507,6 +507,13 @@ public final class EventEdgeTest {
         next(x, 4, 5, 1, 1);
     }
 
+    /** Of a full table every trial is looked at: unlike TICKS in the last DISH alone tell most. */
+    private static void trialsOfAFullTable() {
+        next(Check.made(FULL), 0, 0, 0, 26);
+        next(Check.made(FULL.replaceFirst("taster plain;", "taster liar;")), 1, 0, 0, 26);
+        next(Check.made("dish 0 20;".repeat(6) + "poison 5 wine;".repeat(5) + "taster dog;".repeat(4) + "taster slow;"), 4, 0, 1, 26);
+    }
+
     /** Terms: "the greatest group .. is least": unlike TICKS are unlike groups, like ones are one. */
     private static void greatestGroupIsLeast() {
         next(Check.made("dish 0 20;poison 5;poison 5;poison 7;taster plain;clean 1;"), 0, 0, 0, 2);
@@ -520,6 +527,14 @@ public final class EventEdgeTest {
         next(hard, 0, 0, 0, 2);
         TasterTable dishes = Check.made("dish 0 20;dish 0 20;dish 0 20;poison 5;taster plain;");
         next(dishes, 0, 0, 0, 3);
+    }
+
+    /** "by that trial": that he would FALL by what he ate ahead of it tells no CASES apart. */
+    private static void byThatTrialAlone() {
+        TasterTable x = Check.made("dish 0 20;poison 5 wine;taster plain;");
+        x.ate(0, 0, 10, true);
+        x.ate(0, 0, 12, false);
+        next(x, 0, 0, 1, 1);
     }
 
     /** No POISONS: CASE 0 is a group of one, by any trial. */

@@ -202,6 +202,40 @@ public final class PlanEdgeTest {
         plan("dish 0 13;dish 0 9;poison 9;taster plain cap 1;taster drunk cap 1;", 0, 2, 22, 2, 0, 1, 0);
     }
 
+    /** Of like ones, the first row may be that of another company than the first of like COLD that there is. */
+    private static void firstRowOfAllCompanies() {
+        String ahead = "dish 0 60;dish 0 60;" + "poison 5 hardens 1;".repeat(4) + "taster plain cap 1;".repeat(5);
+        plan(ahead + "had 2 0 1;had 3 0 1;had 0 1 1;had 1 2 1;had 4 3 1;", 0, 4, 10, 3, 55, 20, 55);
+        plan("dish 0 60;dish 0 60;poison 5;taster plain cap 1;taster slow cap 1;taster plain cap 1;", 0, 2, 10, 1, 55, 4, 55);
+        plan("dish 0 9;dish 0 60;poison 5;taster slow cap 1;taster plain cap 1;taster plain cap 1;", 0, 2, 10, 2, 4, 4, 55);
+    }
+
+    /** All LIES and all TASTERS, asked of one object in any order, as of new ones. */
+    private static void askedInAnyOrder() {
+        String text = "dish 0 60;dish 2 40;poison 5 hardens 1;poison 9;taster slow cap 1;taster plain;taster drunk;taster dog;"
+                + "taster plain cap 1;had 1 0 1;";
+        TasterTable x = Check.made(text);
+        for (int round = 0; round < 30; round++) {
+            int lies = round * 7 % 3;
+            int taster = round * 11 % 5;
+            TasterTable fresh = Check.made(text);
+            CHECK.same("worth(" + taster + ", " + lies + ")", fresh.worth(taster, lies), () -> x.worth(taster, lies));
+            CHECK.same("bars(" + lies + ")", fresh.bars(lies), () -> x.bars(lies));
+            CHECK.same("plan(" + lies + ", 0)", fresh.plan(lies, 0), () -> x.plan(lies, 0));
+            CHECK.same("plan(" + lies + ", 1)", fresh.plan(lies, 1), () -> x.plan(lies, 1));
+            if (x.plan(lies, 0) >= 0) {
+                CHECK.same("planned(1, 0)", fresh.planned(1, 0), () -> x.planned(1, 0));
+            }
+        }
+        int[] tasters = {1, 2, 4};
+        int[] cold = {10, 26, 31};
+        for (int lies = 0; lies < 3; lies++) {
+            int l = lies;
+            CHECK.same("TASTERS against " + l, tasters[l], () -> x.plan(l, 0));
+            CHECK.same("COLD against " + l, cold[l], () -> x.plan(l, 1));
+        }
+    }
+
     /** No one stands in a set who isn't needed there: a smaller set of bits comes first. */
     private static void nobodyTooMuch() {
         plan("dish 0 95;dish 0 95;poison 6;poison 9 wine;taster dog cap 2;taster plain cap 1;taster plain cap 1;",
@@ -310,6 +344,12 @@ public final class PlanEdgeTest {
         CHECK.same("one a TICK too late", 0, () -> Check.made("dish 11 20;" + two).bars(1));
         CHECK.same("the other just in time", -1, () -> Check.made("dish 15 20;" + two).bars(0));
         CHECK.same("a TICK too late", 0, () -> Check.made("dish 16 20;" + two).bars(0));
+    }
+
+    /** All TASTERS taste with WINE (but dogs), when what bars a PLAN is asked. */
+    private static void barsWithWine() {
+        CHECK.same("plain", -1, () -> Check.made("dish 0 20;poison 5 wine;taster plain;").bars(0));
+        CHECK.same("a dog", 0, () -> Check.made("dish 0 20;poison 5 wine;taster dog;").bars(0));
     }
 
     /** Terms: "all TASTERS but liars". */

@@ -138,6 +138,12 @@ public final class TextEdgeTest {
         Check.feed(x, "dish 1 2 weight 5;");
         CHECK.same("n in a word", 1, () -> x.table(12));
         CHECK.same("that word", 9, x::fault);
+        Check.feed(x, "cleanx");
+        CHECK.same("n at a word's end, a letter behind it", 1, () -> x.table(5));
+        CHECK.same("where it ends", 5, x::fault);
+        Check.feed(x, "clean 50000;");
+        CHECK.same("n in a NUMBER of 5 digits", 1, () -> x.table(10));
+        CHECK.same("which isn't too much", 10, x::fault);
     }
 
     /** Promise 3: "(it is empty then)", with a FAULT too, and bytes behind the first n are gone. */
@@ -265,6 +271,23 @@ public final class TextEdgeTest {
         CHECK.same("HAD", 0, () -> x.taster(0, 10));
         CHECK.same("'had' and 'clean' may be told again", 0,
                 () -> Check.table(x, "poison 5;taster plain;clean 3;had 0 0 1;"));
+    }
+
+    /** Promise 3: "all anew", for each table of many, and behind texts with a FAULT at their very end. */
+    private static void everyTableIsAllAnew() {
+        TasterTable x = new TasterTable();
+        for (int round = 0; round < 6; round++) {
+            Check.table(x, FULL + "clean 5;had 0 0 7;had 4 4 8;" + (round % 2 == 0 ? "" : "x"));
+            Check.table(x, "poison 5;taster plain;" + (round < 3 ? "" : "dish 7 7;"));
+            CHECK.same("a table", 0, () -> Check.table(x, "dish 7 8;poison 5;taster plain;"));
+            for (int what = 0; what < 4; what++) {
+                int w = what;
+                CHECK.same("count " + w, 1, () -> x.count(w));
+            }
+            CHECK.same("READY", 7, () -> x.dish(0, 0));
+            CHECK.same("KIND", 0, () -> x.taster(0, 0));
+            CHECK.same("HAD", 0, () -> x.taster(0, 10));
+        }
     }
 
     /** Promise 3: "EVENTS .. are gone". */
@@ -556,6 +579,21 @@ public final class TextEdgeTest {
         CHECK.same("without", 1, () -> Check.made("dish 0 1;").count(3));
     }
 
+    /** "a KIND: 0 plain, 1 slow, 2 drunk, 3 dog, 4 liar". */
+    private static void kinds() {
+        String[] words = {"plain", "slow", "drunk", "dog", "liar"};
+        for (int kind = 0; kind < 5; kind++) {
+            int due = kind;
+            CHECK.same(words[due], due, () -> Check.made("taster " + words[due] + ";").taster(0, 0));
+        }
+    }
+
+    /** "only with WINE or not": promise 7 "whether it wants WINE (1)". */
+    private static void wineOrNot() {
+        CHECK.same("wine", 1, () -> Check.made("poison 5 wine;").poison(0, 1));
+        CHECK.same("not", 0, () -> Check.made("poison 5;").poison(0, 1));
+    }
+
     // ---- Terms: a TEXT and its TOKENS ----
 
     /** "A TEXT of at most 700 bytes": one that is full, to its last byte. */
@@ -610,6 +648,25 @@ public final class TextEdgeTest {
         fault("taster dogcap 1;", 1, 7);
         fault("taster dog capp 1;", 1, 11);
         fault("poison 1 winehardens 1;", 1, 9);
+    }
+
+    /** A word of which one letter is another, or is missing, or is one too many, is another word. */
+    private static void almostAWord() {
+        String[] texts = {"dish 0 1 weight 2;", "poison 3 wine hardens 4 weight 5;", "taster plain cap 6;", "taster slow;",
+            "taster drunk;", "taster dog;", "taster liar;", "clean 8;"};
+        for (String text : texts) {
+            fine(text);
+            for (int at = 0; at < text.length(); at++) {
+                if (Character.isLetter(text.charAt(at))) {
+                    int place = Math.max(text.lastIndexOf(' ', at) + 1, 0);
+                    fault(text.substring(0, at) + 'q' + text.substring(at + 1), 1, place);
+                    fault(text.substring(0, at) + text.substring(at + 1), 1, place);
+                    fault(text.substring(0, at) + 'q' + text.substring(at), 1, place);
+                }
+            }
+        }
+        fault("poison 1;taster dog;hat 0 0 1;", 1, 20);
+        fault("poison 1;taster dog;bad 0 0 1;", 1, 20);
     }
 
     /** "NUMBERS (1 to 4 digits)": leading noughts count as digits. */

@@ -390,7 +390,8 @@ public final class CourtEdgeTest {
         for (int seed = 0; seed < 40; seed++) {
             int dish = bits(seed, 2) % 5;
             int poison = bits(seed, 3) % 7;
-            TasterTable x = court("dish 0 20 weight 0;dish 0 20 weight 2;dish 0 20 weight 0;dish 0 20 weight 3;dish 0 20 weight 0;"
+            TasterTable x = court("dish 0 20 weight 0;dish 0 20 weight 2;dish 0 20 weight 0;dish 0 20 weight 3;"
+                    + "dish 0 20 weight 0;"
                     + "poison 5 weight 4;poison 6 weight 0;poison 7 weight 3;taster plain;", seed, 0, 1000, 1);
             day(x, 0, dish < 2 ? 1 : 3, poison < 4 ? 0 : 2, 1, 0);
         }
@@ -516,7 +517,8 @@ public final class CourtEdgeTest {
     /** "If all WEIGHTS of DISHES, or of POISONS, are 0 (or there are none), nothing is poisoned". */
     private static void nothingToPoison() {
         String[] texts = {"", "dish 0 20;", "dish 0 20;taster plain;", "poison 5;", "poison 5;taster plain;",
-            "dish 0 20 weight 0;dish 0 20 weight 0;poison 5;taster plain;", "dish 0 20;poison 5 weight 0;poison 6 weight 0;taster plain;",
+            "dish 0 20 weight 0;dish 0 20 weight 0;poison 5;taster plain;",
+            "dish 0 20;poison 5 weight 0;poison 6 weight 0;taster plain;",
             "dish 0 20 weight 0;poison 5 weight 0;taster plain;"};
         for (String text : texts) {
             TasterTable x = court(text, 5, 0, 1000, 100);

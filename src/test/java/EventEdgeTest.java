@@ -511,7 +511,8 @@ public final class EventEdgeTest {
     private static void trialsOfAFullTable() {
         next(Check.made(FULL), 0, 0, 0, 26);
         next(Check.made(FULL.replaceFirst("taster plain;", "taster liar;")), 1, 0, 0, 26);
-        next(Check.made("dish 0 20;".repeat(6) + "poison 5 wine;".repeat(5) + "taster dog;".repeat(4) + "taster slow;"), 4, 0, 1, 26);
+        next(Check.made("dish 0 20;".repeat(6) + "poison 5 wine;".repeat(5) + "taster dog;".repeat(4) + "taster slow;"),
+                4, 0, 1, 26);
     }
 
     /** Terms: "the greatest group .. is least": unlike TICKS are unlike groups, like ones are one. */

@@ -334,7 +334,8 @@ public final class PlanEdgeTest {
         CHECK.same("an earlier DISH, a later POISON", 1,
                 () -> Check.made("dish 0 9;dish 0 8;poison 9;poison 10;taster plain;").bars(0));
         CHECK.same("a later DISH", 10, () -> Check.made("dish 0 9;dish 0 8;poison 9;poison 1;taster plain;").bars(0));
-        CHECK.same("the first POISON of it", 40, () -> Check.made("dish 0 9;".repeat(4) + "dish 0 1;poison 2;poison 3;taster plain;").bars(0));
+        CHECK.same("the first POISON of it", 40,
+                () -> Check.made("dish 0 9;".repeat(4) + "dish 0 1;poison 2;poison 3;taster plain;").bars(0));
     }
 
     /** Terms: "tasting it when it is READY, aren't enough (LIES and 1 of them in time)". */
@@ -364,7 +365,7 @@ public final class PlanEdgeTest {
         CHECK.same("a CAP of 0", 99, () -> Check.made("dish 0 20;poison 5;taster plain cap 0;").bars(0));
         CHECK.same("another bar is ahead", 10, () -> Check.made("dish 0 20;dish 0 4;poison 5;taster plain cap 0;").bars(0));
         CHECK.same("two of three CAPS", 99,
-                () -> Check.made("dish 0 20;dish 0 20;poison 5;taster plain cap 1;taster plain cap 1;taster plain cap 1;").bars(1));
+                () -> Check.made("dish 0 20;dish 0 20;poison 5;" + "taster plain cap 1;".repeat(3)).bars(1));
         CHECK.same("just enough", -1,
                 () -> Check.made("dish 0 20;dish 0 20;poison 5;" + "taster plain cap 1;".repeat(4)).bars(1));
     }

@@ -474,6 +474,17 @@ public final class CourtEdgeTest {
         CHECK.same("HAD by the plain one", 3, () -> y.had(1, 1));
     }
 
+    /** The 5th TASTER of five falls and has HAD it like any other. */
+    private static void fallsOfAllFive() {
+        TasterTable x = court("dish 0 20;poison 5 hardens 1;taster slow;taster liar;taster drunk;taster plain;taster dog;",
+                1, 2, 1000, 2);
+        day(x, 0, 0, 0, 28, 0);
+        day(x, 1, 0, 0, 0, 1);
+        CHECK.same("HAD by the 5th", 2, () -> x.had(4, 0));
+        CHECK.same("HAD by the 1st", 0, () -> x.had(0, 0));
+        day(court("dish 0 20;poison 5;" + "taster dog;".repeat(5), 1, 0, 1000, 1), 0, 0, 0, 1, 0);
+    }
+
     /** "if they are no more than LIES, it is served: FAILED": just LIES of them fail, LIES and 1 don't. */
     private static void noMoreThanLies() {
         // by days the tasters 0, 1, 2 grow hard one behind the other

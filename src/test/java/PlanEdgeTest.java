@@ -206,6 +206,8 @@ public final class PlanEdgeTest {
     private static void firstRowOfAllCompanies() {
         String ahead = "dish 0 60;dish 0 60;" + "poison 5 hardens 1;".repeat(4) + "taster plain cap 1;".repeat(5);
         plan(ahead + "had 2 0 1;had 3 0 1;had 0 1 1;had 1 2 1;had 4 3 1;", 0, 4, 10, 3, 55, 20, 55);
+        // the same with the least cold that there is
+        plan(ahead.replace("poison 5", "poison 1") + "had 2 0 1;had 3 0 1;had 0 1 1;had 1 2 1;had 4 3 1;", 0, 4, 2, 3, 59, 20, 59);
         plan("dish 0 60;dish 0 60;poison 5;taster plain cap 1;taster slow cap 1;taster plain cap 1;", 0, 2, 10, 1, 55, 4, 55);
         plan("dish 0 9;dish 0 60;poison 5;taster slow cap 1;taster plain cap 1;taster plain cap 1;", 0, 2, 10, 2, 4, 4, 55);
     }
@@ -240,6 +242,22 @@ public final class PlanEdgeTest {
     private static void nobodyTooMuch() {
         plan("dish 0 95;dish 0 95;poison 6;poison 9 wine;taster dog cap 2;taster plain cap 1;taster plain cap 1;",
                 0, 2, 18, 2, 86, 4, 86);
+    }
+
+    /** All five are needed, and in one way alone: who would taste the first DISHES best is wanted for the last. */
+    private static void onlyOneWayToShare() {
+        plan("dish 0 30;dish 0 30;dish 0 10;poison 10 hardens 1;poison 11 hardens 1;poison 11 hardens 1;"
+                + "taster plain cap 1;taster dog cap 1;taster dog cap 1;taster slow cap 1;taster slow cap 1;"
+                + "had 1 0 1;had 1 2 1;had 2 0 1;had 2 1 1;", 0, 5, 54, 8, 8, 16, 8, 7, 0);
+    }
+
+    /** Six DISHES, CAPS of two TASTERS that are just enough, one of them slower: he gets the last DISH. */
+    private static void sixDishesOfTwo() {
+        plan("dish 0 60;".repeat(6) + "poison 5;taster slow cap 5;taster plain cap 5;", 0, 2, 35,
+                1, 50, 2, 55, 2, 55, 2, 55, 2, 55, 2, 55);
+        plan("dish 0 60;".repeat(6) + "poison 5;taster plain cap 5;taster slow cap 1;", 0, 2, 35,
+                1, 55, 1, 55, 1, 55, 1, 55, 1, 55, 2, 50);
+        noPlan("dish 0 60;".repeat(6) + "poison 5;taster plain cap 3;taster slow cap 2;", 0, 99);
     }
 
     /** The greatest table: 6 DISHES, 5 POISONS, 5 TASTERS, LIES 2. */

@@ -169,9 +169,7 @@ public final class TasterTable {
 
     /** Promise 10. */
     public int plan(int lies, int what) throws NoSuchElementException, IllegalArgumentException {
-        if (what != 0 && what != 1) {
-            throw new NoSuchElementException("no such thing of a plan");
-        }
+        needZeroOrOne(what);
         needLies(lies);
         Plan found = planner.planFor(board, lies, NONE);
         if (!found.exists) {
@@ -184,8 +182,9 @@ public final class TasterTable {
     /** Promise 11. */
     public int planned(int dish, int what) throws NoSuchElementException {
         needDish(dish);
-        if (keptLies == NONE || (what != 0 && what != 1)) {
-            throw new NoSuchElementException("no plan is kept, or no such thing of it");
+        needZeroOrOne(what);
+        if (keptLies == NONE) {
+            throw new NoSuchElementException("no plan is kept");
         }
         Plan kept = planner.planFor(board, keptLies, NONE);
         return what == 0 ? kept.sets[dish] : kept.ticks[dish];
@@ -263,7 +262,7 @@ public final class TasterTable {
         if (dish != NONE) {
             needDish(dish);
         }
-        needPart(what);
+        needZeroOrOne(what);
         judge.hear(board, log, log.latestTick());
         return partOf(judge.weightOf(dish), judge.weightOfAll(), what);
     }
@@ -276,9 +275,7 @@ public final class TasterTable {
 
     /** Promise 20. */
     public int next(int what) throws NoSuchElementException {
-        if (what != 0 && what != 1) {
-            throw new NoSuchElementException("no such thing of a trial");
-        }
+        needZeroOrOne(what);
         judge.hear(board, log, log.latestTick());
         judge.chooseTrial();
         return what == 0 ? judge.trialCode : judge.trialGroup;
@@ -296,7 +293,7 @@ public final class TasterTable {
     /** Promise 22. */
     public int trial(int days, int his, int ill, int both, int what)
             throws NoSuchElementException, IllegalArgumentException {
-        needPart(what);
+        needZeroOrOne(what);
         if (days < 1 || days > MAX_TRIAL_DAYS || his < 0 || his > days
                 || ill < 0 || ill > days || both < 0 || both > ill) {
             throw new IllegalArgumentException("no such trial");
@@ -397,9 +394,9 @@ public final class TasterTable {
         }
     }
 
-    private static void needPart(int what) {
+    private static void needZeroOrOne(int what) {
         if (what != 0 && what != 1) {
-            throw new NoSuchElementException("no such part of a fraction");
+            throw new NoSuchElementException("no such what");
         }
     }
 
